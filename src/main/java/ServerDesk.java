@@ -64,8 +64,7 @@ public final class ServerDesk {
 
     public boolean rule(int kind, int budget, int period)
             throws IllegalArgumentException, IllegalStateException {
-        if (!isKind(kind) || RuleBook.hasBudget(kind)
-                && !(isWithin(period, 1, MOST_PERIOD) && isWithin(budget, 1, period))) {
+        if (!isKind(kind) || !RuleBook.mayHave(kind, budget, period)) {
             throw new IllegalArgumentException("a number of the rule is out of its range");
         }
         if (started) {
@@ -328,8 +327,7 @@ public final class ServerDesk {
         private int current = 0;
 
         RuleBook() {
-            Arrays.fill(budget, 1);
-            Arrays.fill(period, MOST_PERIOD);
+            clear();
         }
 
         void clear() {
@@ -340,6 +338,10 @@ public final class ServerDesk {
 
         static boolean hasBudget(int kind) {
             return kind == DEFERRABLE || kind == SPORADIC;
+        }
+
+        static boolean mayHave(int kind, int budget, int period) {
+            return !hasBudget(kind) || isWithin(period, 1, MOST_PERIOD) && isWithin(budget, 1, period);
         }
 
         void keep(int kind, int newBudget, int newPeriod) {
