@@ -15,6 +15,7 @@ final class ResetEdgesTest {
         test.resetOf200EarlyOnes();
         test.resetAfterARefusedStart();
         test.resetForgetsTheRulesNumbers();
+        test.resetForgetsWhatHardOnesNeed();
         test.aRunAfterAReset();
         test.objectsAreApart();
         test.the512thCall();
@@ -159,11 +160,35 @@ final class ResetEdgesTest {
         check.due("15: 1 of 60 for rule 2", x.replay(2), 22);
     }
 
+    private void resetForgetsWhatHardOnesNeed() {
+        for (int count = 1; count <= 3; count++) {
+            ServerDesk x = new ServerDesk();
+            x.rule(3, 0, 0);
+            x.start();
+            for (int i = 0; i < count; i++) {
+                x.hard(30, 200);
+            }
+            x.tick(7);
+            x.reset();
+            x.rule(3, 0, 0);
+            x.start();
+            for (int number = 0; number < 4; number++) {
+                check.due("15: one tick too few", x.hard(2, number + 1), -1);
+                check.due("15: just as many ticks", x.hard(1, number + 1), number);
+            }
+        }
+    }
+
     private void aRunAfterAReset() {
         for (int kind = 0; kind < 4; kind++) {
             for (int other = 0; other < 4; other++) {
                 int before = kind;
                 int rule = other;
+                edges.sameAfter("15: rule " + other + " after rule " + kind + ", jobs not done", x -> {
+                    Edges.run(x, before);
+                    x.reset();
+                    Edges.run(x, rule);
+                }, x -> Edges.run(x, rule));
                 edges.sameAfter("15: rule " + other + " after rule " + kind, x -> {
                     Edges.run(x, before);
                     x.tick(77);
